@@ -257,7 +257,6 @@ public final class RelatorsBench {
         firing.awardFrom[teller] = isForTelling ? today : NONE;
         firing.lostWage[teller] = fired.wage;
         fired.employer = NONE;
-        fired.wage = 0;
         return isForTelling;
     }
 

@@ -14,6 +14,7 @@ public final class AsksTest {
         barsForThePublic();
         barsForThePublicByAmendments();
         first();
+        firstByDay();
         firstWithoutDismissed();
         dueByGrounds();
         dueByRounding();
@@ -25,6 +26,7 @@ public final class AsksTest {
         ofClaim();
         got();
         ofFirm();
+        sumsOfSeveral();
         all();
         askedOutOfRange();
         readme();
@@ -205,6 +207,26 @@ public final class AsksTest {
         isFirst("a later one with all", bench, 0, 2);
         bench.amend(0, 0b100);
         isFirst("one that reaches back", bench, 0, 0);
+    }
+
+    private static void firstByDay() {
+        RelatorsBench bench = new RelatorsBench();
+        Runs.learnAll(bench, 0);
+        bench.scheme(0, 0b1, 0);
+        bench.file(0, 0, 0b10);
+        bench.file(0, 0, 0b10);
+        bench.pass(1);
+        bench.file(0, 0, 0b1);
+        bench.pass(1);
+        bench.amend(1, 0b1);
+        bench.pass(1);
+        bench.amend(0, 0b1);
+        bench.file(0, 0, 0b1);
+        isFirst("the earliest, not the lowest", bench, 0, 2);
+        bench.choose(2, DISMISSED);
+        isFirst("the next day, not the lowest", bench, 0, 1);
+        bench.choose(1, DISMISSED);
+        isFirst("the lowest of the last day", bench, 0, 0);
     }
 
     private static void firstWithoutDismissed() {
@@ -406,6 +428,27 @@ public final class AsksTest {
         bench.fund(2, 11);
         areAll("of the firm", new int[] {2311, 5011, 2300, 400}, what -> bench.ofFirm(2, what));
         areAll("of another firm", new int[] {0, 0, 0, 0}, what -> bench.ofFirm(5, what));
+    }
+
+    private static void sumsOfSeveral() {
+        RelatorsBench bench = wonSuit();
+        for (int i = 1; i <= 2; i++) {
+            bench.file(3, 2, 0b10);
+            bench.choose(i, JOINED);
+            bench.settle(i, 100 * i);
+        }
+        for (int i = 0; i < 2; i++) {
+            bench.tell(2, 3);
+            bench.work(3, 2, 10);
+            bench.fire(2, 3);
+            bench.pass(1);
+            bench.award(2, 3);
+        }
+        int ownOfThree = 483 - 144 + 15 - 4 + 30 - 9;
+        areAll("the teller got by several", new int[] {ownOfThree, 0, 40}, what -> bench.got(3, what));
+        areAll("the other got by several", new int[] {0, 144 + 4 + 9, 0}, what -> bench.got(6, what));
+        areAll("the firm by several", new int[] {2360, 5000, 2600, 40}, what -> bench.ofFirm(2, what));
+        Check.is("the state by several", 1817 + 85 + 170, bench.all(1));
     }
 
     private static void all() {

@@ -26,15 +26,23 @@ final class Check {
         count(want.equals(got), what + ": due is " + want + ", answered " + got);
     }
 
-    /** The exception must be of this very class, not of one below it. */
+    /** The exception must be of this very class, not of one below it, and be thrown by the bench's own words. */
     static void refuses(String what, Class<? extends RuntimeException> want, Act act) {
         String got = "nothing";
         try {
             act.run();
         } catch (RuntimeException e) {
-            got = e.getClass().getSimpleName();
+            got = nameOf(e);
         }
         is(what + " throws", want.getSimpleName(), got);
+    }
+
+    /** Of an exception that the library threw the name says so: the bench must look ahead of such calls. */
+    static String nameOf(RuntimeException e) {
+        String name = e.getClass().getSimpleName();
+        StackTraceElement[] trace = e.getStackTrace();
+        boolean isOwn = trace.length > 0 && trace[0].getClassName().matches("(Relators|Told)Bench");
+        return isOwn ? name : name + " by the library";
     }
 
     static void close() {

@@ -152,7 +152,7 @@ public final class RandomRunsTest {
         try {
             return Integer.toString(asked.getAsInt());
         } catch (RuntimeException e) {
-            return e.getClass().getSimpleName();
+            return Check.nameOf(e);
         }
     }
 

@@ -339,6 +339,10 @@ public final class SuitsTest {
         joined.choose(0, JOINED);
         Check.is("a joined one is settled for any sum", 0, joined.settle(0, 1));
         Check.is("the claim is paid for all the same", 0, joined.ofClaim(0, 3));
+        RelatorsBench free = Runs.suedClaim(1000, 100);
+        free.choose(0, JOINED);
+        Check.is("or for none", 0, free.settle(0, 0));
+        Check.is("which is won as well", WON, free.ofSuit(0, 4));
         RelatorsBench dismissed = Runs.suedClaim(1000, 100);
         dismissed.choose(0, DISMISSED);
         Check.refuses("settle a dismissed one", Check.STATE, () -> dismissed.settle(0, 320));
