@@ -28,12 +28,12 @@ public final class AsksTest {
         ofFirm();
         sumsOfSeveral();
         all();
-        askedOutOfRange();
         readme();
         Check.close();
     }
 
     private static void coversHalf() {
+        Check.promise("covers");
         RelatorsBench bench = new RelatorsBench();
         Runs.learnAll(bench, 0);
         bench.scheme(0, 0b1111, 0);
@@ -58,6 +58,7 @@ public final class AsksTest {
     }
 
     private static void coversByAmendments() {
+        Check.promise("covers");
         RelatorsBench bench = new RelatorsBench();
         Runs.learnAll(bench, 0);
         bench.scheme(0, 0b1111, 0);
@@ -76,6 +77,7 @@ public final class AsksTest {
     }
 
     private static void coversLaterScheme() {
+        Check.promise("covers");
         RelatorsBench bench = new RelatorsBench();
         Runs.learnAll(bench, 0);
         bench.pass(3);
@@ -93,11 +95,11 @@ public final class AsksTest {
         Check.is("told later, amended first", 7, bench.covers(0, 1));
         Check.is("told later, one of three", NONE, bench.covers(0, 2));
         Check.is("told later, amended last", 11, bench.covers(0, 3));
-        Check.is("told later, first", 0, bench.first(3));
-        Check.is("told later, first anew", 0, bench.firstAnew(3));
+        isFirst("told later", bench, 3, 0);
     }
 
     private static void coversWhenOver() {
+        Check.promise("covers");
         RelatorsBench bench = Runs.suedScheme(0);
         bench.choose(0, DISMISSED);
         Check.is("a dismissed one covers", 0, bench.covers(0, 0));
@@ -106,11 +108,13 @@ public final class AsksTest {
         bench.judge(1);
         bench.scheme(0, 3, 0);
         Check.is("a won one covers", 0, bench.covers(1, 1));
-        Check.is("and is first", 1, bench.first(1));
+        isFirst("a won one", bench, 1, 1);
+        Check.promise("bars");
         Check.is("a scheme told after its win is not barred", 0, bench.bars(1, 1));
     }
 
     private static void barsInOrder() {
+        Check.promise("bars");
         RelatorsBench bench = Runs.suedScheme(0);
         bench.learn(1, 0);
         bench.learn(1, 1);
@@ -130,6 +134,7 @@ public final class AsksTest {
     }
 
     private static void barsForThePublic() {
+        Check.promise("bars");
         RelatorsBench bench = new RelatorsBench();
         Runs.learnAll(bench, 0);
         for (int i = 0; i < 4; i++) {
@@ -162,6 +167,7 @@ public final class AsksTest {
     }
 
     private static void barsForThePublicByAmendments() {
+        Check.promise("bars");
         RelatorsBench bench = new RelatorsBench();
         Runs.learnAll(bench, 0);
         bench.scheme(0, 0b1111, 0);
@@ -182,11 +188,14 @@ public final class AsksTest {
     }
 
     private static void isFirst(String what, RelatorsBench bench, int scheme, int suit) {
-        Check.is(what + ": first", suit, bench.first(scheme));
-        Check.is(what + ": firstAnew", suit, bench.firstAnew(scheme));
+        Check.promise("first");
+        Check.is(what, suit, bench.first(scheme));
+        Check.promise("firstAnew");
+        Check.is(what, suit, bench.firstAnew(scheme));
     }
 
     private static void first() {
+        Check.promise("first");
         RelatorsBench bench = new RelatorsBench();
         Runs.learnAll(bench, 0);
         bench.scheme(0, 0b1111, 0);
@@ -210,6 +219,7 @@ public final class AsksTest {
     }
 
     private static void firstByDay() {
+        Check.promise("first");
         RelatorsBench bench = new RelatorsBench();
         Runs.learnAll(bench, 0);
         bench.scheme(0, 0b1, 0);
@@ -230,6 +240,7 @@ public final class AsksTest {
     }
 
     private static void firstWithoutDismissed() {
+        Check.promise("first");
         RelatorsBench bench = new RelatorsBench();
         Runs.learnAll(bench, 0);
         bench.scheme(0, 0b1, 0);
@@ -250,6 +261,7 @@ public final class AsksTest {
     }
 
     private static void dueByGrounds() {
+        Check.promise("due");
         int[] penalties = {100, 50, 20};
         for (int ground = RelatorsBench.BY_FACT; ground <= RelatorsBench.BY_KEEPING; ground++) {
             RelatorsBench bench = Runs.suedScheme(ground);
@@ -263,6 +275,7 @@ public final class AsksTest {
     }
 
     private static void dueByRounding() {
+        Check.promise("due");
         RelatorsBench bench = Runs.suedScheme(RelatorsBench.BY_WORD);
         bench.claim(0, 5);
         bench.claim(0, 5);
@@ -279,6 +292,7 @@ public final class AsksTest {
     }
 
     private static void dueByAge() {
+        Check.promise("due");
         RelatorsBench bench = new RelatorsBench();
         bench.learn(0, 0);
         bench.learn(0, 1);
@@ -303,6 +317,7 @@ public final class AsksTest {
     }
 
     private static void dueBySchemes() {
+        Check.promise("due");
         RelatorsBench bench = Runs.suedClaim(10000, 10);
         bench.scheme(0, 0b1, RelatorsBench.BY_FACT);
         bench.claim(1, 20);
@@ -326,6 +341,7 @@ public final class AsksTest {
     }
 
     private static void plannersOfBarredSchemes() {
+        Check.promise("ofSuit");
         RelatorsBench bench = Runs.suedScheme(0);
         bench.scheme(0, 0b10, 0);
         bench.scheme(1, 0b1, 0);
@@ -341,6 +357,7 @@ public final class AsksTest {
     }
 
     private static void sees() {
+        Check.promise("sees");
         RelatorsBench bench = Runs.suedScheme(0);
         bench.learn(7, 0);
         bench.pass(59);
@@ -393,6 +410,7 @@ public final class AsksTest {
     }
 
     private static void ofSuit() {
+        Check.promise("ofSuit");
         RelatorsBench bench = wonSuit();
         areAll("of a won suit", new int[] {3, 2, 0b100010, 4, RelatorsBench.WON, 9, 6, 2300, 483, 21},
                 what -> bench.ofSuit(0, what));
@@ -402,6 +420,7 @@ public final class AsksTest {
     }
 
     private static void ofClaim() {
+        Check.promise("ofClaim");
         RelatorsBench bench = wonSuit();
         bench.scheme(1, 1, 0);
         bench.claim(1, 9999);
@@ -410,6 +429,7 @@ public final class AsksTest {
     }
 
     private static void got() {
+        Check.promise("got");
         RelatorsBench bench = wonSuit();
         bench.work(3, 2, 100);
         bench.fire(2, 3);
@@ -420,6 +440,7 @@ public final class AsksTest {
     }
 
     private static void ofFirm() {
+        Check.promise("ofFirm");
         RelatorsBench bench = wonSuit();
         bench.work(3, 2, 100);
         bench.fire(2, 3);
@@ -431,6 +452,7 @@ public final class AsksTest {
     }
 
     private static void sumsOfSeveral() {
+        Check.promise("got");
         RelatorsBench bench = wonSuit();
         for (int i = 1; i <= 2; i++) {
             bench.file(3, 2, 0b10);
@@ -447,11 +469,14 @@ public final class AsksTest {
         int ownOfThree = 483 - 144 + 15 - 4 + 30 - 9;
         areAll("the teller got by several", new int[] {ownOfThree, 0, 40}, what -> bench.got(3, what));
         areAll("the other got by several", new int[] {0, 144 + 4 + 9, 0}, what -> bench.got(6, what));
+        Check.promise("ofFirm");
         areAll("the firm by several", new int[] {2360, 5000, 2600, 40}, what -> bench.ofFirm(2, what));
+        Check.promise("all");
         Check.is("the state by several", 1817 + 85 + 170, bench.all(1));
     }
 
     private static void all() {
+        Check.promise("all");
         RelatorsBench bench = wonSuit();
         bench.publish(0);
         bench.publish(9);
@@ -465,28 +490,9 @@ public final class AsksTest {
         Check.is("no sealed suit", 0, bench.all(3));
     }
 
-    private static void askedOutOfRange() {
-        RelatorsBench bench = wonSuit();
-        for (int number : new int[] {-1, 1, Integer.MIN_VALUE, Integer.MAX_VALUE}) {
-            Check.refuses("covers suit " + number, Check.INDEX, () -> bench.covers(number, 0));
-            Check.refuses("covers scheme " + number, Check.INDEX, () -> bench.covers(0, number));
-            Check.refuses("bars suit " + number, Check.INDEX, () -> bench.bars(number, 0));
-            Check.refuses("bars scheme " + number, Check.INDEX, () -> bench.bars(0, number));
-            Check.refuses("first " + number, Check.INDEX, () -> bench.first(number));
-            Check.refuses("firstAnew " + number, Check.INDEX, () -> bench.firstAnew(number));
-            Check.refuses("due " + number, Check.INDEX, () -> bench.due(number));
-            Check.refuses("ofSuit " + number, Check.INDEX, () -> bench.ofSuit(number, 0));
-        }
-        Check.refuses("ofClaim -1", Check.INDEX, () -> bench.ofClaim(-1, 0));
-        Check.refuses("ofClaim 2", Check.INDEX, () -> bench.ofClaim(2, 0));
-        Check.refuses("got -1", Check.INDEX, () -> bench.got(-1, 0));
-        Check.refuses("got 8", Check.INDEX, () -> bench.got(8, 0));
-        Check.refuses("ofFirm -1", Check.INDEX, () -> bench.ofFirm(-1, 0));
-        Check.refuses("ofFirm 6", Check.INDEX, () -> bench.ofFirm(6, 0));
-    }
-
     /** The example in README.md. */
     private static void readme() {
+        Check.promise("judge");
         RelatorsBench bench = new RelatorsBench();
         bench.fund(0, 100000);
         int scheme = bench.scheme(0, 0b11, RelatorsBench.BY_FACT);

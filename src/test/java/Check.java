@@ -1,4 +1,6 @@
-/** Counts what was as due and prints what was not; a test's main ends with close(). */
+import java.util.List;
+
+/** Counts what was as due and prints what was not, by the promise that it is of; a test's main ends with close(). */
 final class Check {
     interface Act {
         void run();
@@ -8,10 +10,26 @@ final class Check {
     static final Class<? extends RuntimeException> ARGUMENT = IllegalArgumentException.class;
     static final Class<? extends RuntimeException> STATE = IllegalStateException.class;
 
+    /** The promises of ../shared/DOC.md in their order, from 1. */
+    static final List<String> PROMISES = List.of("A new object", "fund", "scheme", "claim", "sample", "learn", "publish",
+            "plan", "know", "admit", "deal", "file", "amend", "extend", "choose", "help", "judge", "settle", "work",
+            "tell", "fire", "award", "pass", "covers", "bars", "first", "firstAnew", "due", "sees", "ofSuit", "ofClaim",
+            "got", "ofFirm", "all");
+
+    private static String promise = "";
     private static int right = 0;
     private static int wrong = 0;
 
     private Check() {
+    }
+
+    /** Names the promise that all is of that is checked from here on. */
+    static void promise(String name) {
+        int number = PROMISES.indexOf(name) + 1;
+        if (number == 0) {
+            throw new IllegalArgumentException("no promise is named " + name);
+        }
+        promise = "promise " + number + ", " + name + ": ";
     }
 
     static void is(String what, long want, long got) {
@@ -28,13 +46,20 @@ final class Check {
 
     /** The exception must be of this very class, not of one below it, and be thrown by the bench's own words. */
     static void refuses(String what, Class<? extends RuntimeException> want, Act act) {
-        String got = "nothing";
+        is(what + " throws", want.getSimpleName(), thrownBy(act));
+    }
+
+    static void passes(String what, Act act) {
+        is(what + " throws", "nothing", thrownBy(act));
+    }
+
+    static String thrownBy(Act act) {
         try {
             act.run();
         } catch (RuntimeException e) {
-            got = nameOf(e);
+            return nameOf(e);
         }
-        is(what + " throws", want.getSimpleName(), got);
+        return "nothing";
     }
 
     /** Of an exception that the library threw the name says so: the bench must look ahead of such calls. */
@@ -57,7 +82,7 @@ final class Check {
             right++;
         } else {
             wrong++;
-            System.out.println(complaint);
+            System.out.println(promise + complaint);
         }
     }
 }

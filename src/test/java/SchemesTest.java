@@ -16,6 +16,7 @@ public final class SchemesTest {
     }
 
     private static void aNewObject() {
+        Check.promise("A new object");
         RelatorsBench bench = new RelatorsBench();
         for (int what = 0; what < 4; what++) {
             Check.is("new: all " + what, 0, bench.all(what));
@@ -40,6 +41,7 @@ public final class SchemesTest {
     }
 
     private static void fund() {
+        Check.promise("fund");
         RelatorsBench bench = new RelatorsBench();
         Check.is("fund least", 1, bench.fund(0, 1));
         Check.is("fund most", 1000001, bench.fund(0, 1000000));
@@ -62,6 +64,7 @@ public final class SchemesTest {
     }
 
     private static void scheme() {
+        Check.promise("scheme");
         RelatorsBench bench = new RelatorsBench();
         Check.refuses("scheme firm -1", Check.INDEX, () -> bench.scheme(-1, 0, 3));
         Check.refuses("scheme firm 6", Check.INDEX, () -> bench.scheme(6, 1, 0));
@@ -81,6 +84,7 @@ public final class SchemesTest {
     }
 
     private static void claim() {
+        Check.promise("claim");
         RelatorsBench bench = new RelatorsBench();
         Check.refuses("claim without a scheme", Check.INDEX, () -> bench.claim(0, 0));
         bench.scheme(0, 1, 0);
@@ -103,6 +107,7 @@ public final class SchemesTest {
     }
 
     private static void sample() {
+        Check.promise("sample");
         RelatorsBench bench = Runs.suedScheme(RelatorsBench.BY_KEEPING);
         bench.claim(0, 100);
         Check.is("no sample: none is false", 0, bench.due(0));
@@ -124,6 +129,7 @@ public final class SchemesTest {
     }
 
     private static void learn() {
+        Check.promise("learn");
         RelatorsBench bench = new RelatorsBench();
         Check.is("learn one", 1, bench.learn(7, 15));
         Check.is("learn it again", 1, bench.learn(7, 15));
@@ -141,6 +147,7 @@ public final class SchemesTest {
     }
 
     private static void publish() {
+        Check.promise("publish");
         RelatorsBench bench = Runs.suedScheme(RelatorsBench.BY_FACT);
         Check.is("a private scheme does not bar", 0, bench.bars(0, 0));
         bench.pass(1);
@@ -160,6 +167,7 @@ public final class SchemesTest {
     }
 
     private static void plan() {
+        Check.promise("plan");
         RelatorsBench bench = Runs.suedScheme(RelatorsBench.BY_FACT);
         bench.choose(0, RelatorsBench.JOINED);
         Check.is("another one planned", false, bench.plan(1, 0));
@@ -178,6 +186,7 @@ public final class SchemesTest {
     }
 
     private static void know() {
+        Check.promise("know");
         RelatorsBench bench = Runs.suedScheme(RelatorsBench.BY_KEEPING);
         bench.sample(0, 1, 1);
         bench.claim(0, 100);
@@ -197,6 +206,7 @@ public final class SchemesTest {
     }
 
     private static void admit() {
+        Check.promise("admit");
         RelatorsBench bench = Runs.suedScheme(RelatorsBench.BY_WORD);
         bench.sample(0, 1, 1);
         bench.claim(0, 100);
@@ -209,6 +219,7 @@ public final class SchemesTest {
     }
 
     private static void admitRefused() {
+        Check.promise("admit");
         RelatorsBench bench = Runs.suedScheme(RelatorsBench.BY_WORD);
         bench.scheme(0, 2, 0);
         bench.scheme(1, 1, 0);

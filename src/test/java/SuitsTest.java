@@ -28,6 +28,7 @@ public final class SuitsTest {
     }
 
     private static void deal() {
+        Check.promise("deal");
         RelatorsBench bench = new RelatorsBench();
         Check.is("deal", 1, bench.deal(0, 1, 1));
         Check.is("deal with the same again", 50, bench.deal(0, 1, 49));
@@ -48,6 +49,7 @@ public final class SuitsTest {
     }
 
     private static void dealsAreFull() {
+        Check.promise("deal");
         RelatorsBench bench = new RelatorsBench();
         for (int i = 0; i < 20; i++) {
             Check.is("deal " + i, i / 2 + 1, bench.deal(i % 2, 2, 1));
@@ -57,6 +59,7 @@ public final class SuitsTest {
     }
 
     private static void partsByDeals() {
+        Check.promise("deal");
         RelatorsBench bench = new RelatorsBench();
         bench.fund(0, 1000);
         bench.learn(0, 0);
@@ -81,6 +84,7 @@ public final class SuitsTest {
     }
 
     private static void file() {
+        Check.promise("file");
         RelatorsBench bench = new RelatorsBench();
         Runs.learnAll(bench, 7);
         bench.learn(0, 1);
@@ -106,6 +110,7 @@ public final class SuitsTest {
     }
 
     private static void suitsAreFull() {
+        Check.promise("file");
         RelatorsBench bench = new RelatorsBench();
         bench.learn(0, 0);
         for (int i = 0; i < 12; i++) {
@@ -117,6 +122,7 @@ public final class SuitsTest {
     }
 
     private static void amend() {
+        Check.promise("amend");
         RelatorsBench bench = Runs.suedScheme(RelatorsBench.BY_FACT);
         Runs.learnAll(bench, 1);
         bench.learn(0, 1);
@@ -144,6 +150,7 @@ public final class SuitsTest {
     }
 
     private static void amendmentsAreFull() {
+        Check.promise("amend");
         RelatorsBench bench = Runs.suedScheme(RelatorsBench.BY_FACT);
         bench.learn(0, 1);
         bench.file(0, 1, 1);
@@ -159,6 +166,7 @@ public final class SuitsTest {
     }
 
     private static void extend() {
+        Check.promise("extend");
         RelatorsBench bench = Runs.suedScheme(RelatorsBench.BY_FACT);
         Check.is("sixty days, with the first", 60, bench.ofSuit(0, 5));
         Check.is("extend", 90, bench.extend(0));
@@ -178,6 +186,7 @@ public final class SuitsTest {
     }
 
     private static void extendRefused() {
+        Check.promise("extend");
         RelatorsBench bench = Runs.suedScheme(RelatorsBench.BY_FACT);
         bench.file(0, 0, 1);
         bench.choose(1, DECLINED);
@@ -188,6 +197,7 @@ public final class SuitsTest {
     }
 
     private static void choose() {
+        Check.promise("choose");
         RelatorsBench bench = Runs.suedScheme(RelatorsBench.BY_FACT);
         Check.is("decline", RelatorsBench.OPEN, bench.choose(0, DECLINED));
         Check.is("decline again", DECLINED, bench.choose(0, DECLINED));
@@ -204,6 +214,7 @@ public final class SuitsTest {
     }
 
     private static void chooseRefused() {
+        Check.promise("choose");
         RelatorsBench bench = Runs.suedScheme(RelatorsBench.BY_FACT);
         Check.refuses("choose -1", Check.INDEX, () -> bench.choose(-1, 0));
         Check.refuses("choose 1", Check.INDEX, () -> bench.choose(1, 1));
@@ -222,6 +233,7 @@ public final class SuitsTest {
     }
 
     private static void chooseEndsTheSeal() {
+        Check.promise("choose");
         RelatorsBench bench = Runs.suedScheme(RelatorsBench.BY_FACT);
         bench.file(0, 0, 1);
         bench.file(0, 0, 1);
@@ -239,6 +251,7 @@ public final class SuitsTest {
     }
 
     private static void help() {
+        Check.promise("help");
         RelatorsBench bench = Runs.suedScheme(RelatorsBench.BY_FACT);
         Check.is("help at first", 0, bench.help(0, 10));
         Check.is("help before", 10, bench.help(0, 3));
@@ -265,6 +278,7 @@ public final class SuitsTest {
     }
 
     private static void judge() {
+        Check.promise("judge");
         RelatorsBench bench = Runs.suedClaim(1000, 100);
         Check.refuses("judge -1", Check.INDEX, () -> bench.judge(-1));
         Check.refuses("judge 1", Check.INDEX, () -> bench.judge(1));
@@ -289,6 +303,7 @@ public final class SuitsTest {
     }
 
     private static void judgePoor() {
+        Check.promise("judge");
         RelatorsBench bench = Runs.suedClaim(319, 100);
         bench.choose(0, DECLINED);
         Check.is("all that it has", 319, bench.judge(0));
@@ -303,6 +318,7 @@ public final class SuitsTest {
     }
 
     private static void judgePaysClaims() {
+        Check.promise("judge");
         RelatorsBench bench = Runs.suedScheme(RelatorsBench.BY_FACT);
         bench.scheme(1, 1, 0);
         bench.claim(0, 10);
@@ -318,6 +334,7 @@ public final class SuitsTest {
     }
 
     private static void settle() {
+        Check.promise("settle");
         RelatorsBench bench = Runs.suedClaim(1000, 100);
         Check.refuses("settle -1", Check.INDEX, () -> bench.settle(-1, -1));
         Check.refuses("settle 1", Check.INDEX, () -> bench.settle(1, 0));
@@ -349,6 +366,7 @@ public final class SuitsTest {
     }
 
     private static void settleLarge() {
+        Check.promise("settle");
         RelatorsBench bench = Runs.suedScheme(RelatorsBench.BY_FACT);
         for (int i = 0; i < 100; i++) {
             bench.fund(0, 1000000);

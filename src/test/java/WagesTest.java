@@ -18,6 +18,7 @@ public final class WagesTest {
     }
 
     private static void work() {
+        Check.promise("work");
         RelatorsBench bench = new RelatorsBench();
         Check.is("work", NONE, bench.work(7, 5, 999));
         Check.is("work in place of that", 5, bench.work(7, 0, 0));
@@ -35,6 +36,7 @@ public final class WagesTest {
     }
 
     private static void tell() {
+        Check.promise("tell");
         RelatorsBench bench = new RelatorsBench();
         bench.pass(4);
         Check.is("tell", 4, bench.tell(0, 7));
@@ -49,6 +51,7 @@ public final class WagesTest {
     }
 
     private static void tellBySuit() {
+        Check.promise("tell");
         RelatorsBench bench = Runs.suedScheme(RelatorsBench.BY_FACT);
         bench.learn(1, 0);
         bench.file(1, 0, 1);
@@ -68,6 +71,7 @@ public final class WagesTest {
     }
 
     private static void fire() {
+        Check.promise("fire");
         RelatorsBench bench = new RelatorsBench();
         Check.refuses("fire firm -1", Check.INDEX, () -> bench.fire(-1, 0));
         Check.refuses("fire firm 6", Check.INDEX, () -> bench.fire(6, 0));
@@ -84,6 +88,7 @@ public final class WagesTest {
     }
 
     private static void fireAfterNinetyDays() {
+        Check.promise("fire");
         RelatorsBench bench = new RelatorsBench();
         bench.tell(0, 0);
         bench.tell(0, 1);
@@ -97,6 +102,7 @@ public final class WagesTest {
     }
 
     private static void fireBySuit() {
+        Check.promise("fire");
         RelatorsBench bench = Runs.suedScheme(RelatorsBench.BY_FACT);
         bench.work(0, 0, 10);
         bench.pass(59);
@@ -115,6 +121,7 @@ public final class WagesTest {
     }
 
     private static void award() {
+        Check.promise("award");
         RelatorsBench bench = new RelatorsBench();
         bench.fund(0, 1000);
         Check.refuses("award firm -1", Check.INDEX, () -> bench.award(-1, 0));
@@ -138,6 +145,7 @@ public final class WagesTest {
     }
 
     private static void awardOnce() {
+        Check.promise("award");
         RelatorsBench bench = new RelatorsBench();
         bench.fund(0, 30);
         bench.tell(0, 0);
@@ -154,6 +162,7 @@ public final class WagesTest {
     }
 
     private static void awardLatest() {
+        Check.promise("award");
         RelatorsBench bench = new RelatorsBench();
         bench.fund(0, 1000);
         bench.tell(0, 0);
@@ -173,6 +182,7 @@ public final class WagesTest {
     }
 
     private static void awardLong() {
+        Check.promise("award");
         RelatorsBench bench = new RelatorsBench();
         bench.fund(0, 1000000);
         for (int teller = 0; teller < 3; teller++) {
@@ -191,6 +201,7 @@ public final class WagesTest {
     }
 
     private static void pass() {
+        Check.promise("pass");
         RelatorsBench bench = new RelatorsBench();
         Check.is("pass", 1, bench.pass(1));
         Check.is("pass the most", 301, bench.pass(300));
