@@ -24,12 +24,18 @@ public final class BoundsTest {
         Check.close();
     }
 
+    /** The first that are refused, the ends, and what wraps around as a bit's number, a byte or a short. */
+    private static int[] beyond(int least, int most) {
+        return new int[] {least - 1, most + 1, least - 32, most + 32, most + 256, most + 65536,
+            Integer.MIN_VALUE, Integer.MIN_VALUE + most, Integer.MAX_VALUE};
+    }
+
     private static void range(String what, Class<? extends RuntimeException> refusal, int least, int most,
             IntConsumer call) {
         for (int value : new int[] {least, most}) {
             Check.passes(what + " " + value, () -> call.accept(value));
         }
-        for (int value : new int[] {least - 1, most + 1, Integer.MIN_VALUE, Integer.MAX_VALUE}) {
+        for (int value : beyond(least, most)) {
             Check.refuses(what + " " + value, refusal, () -> call.accept(value));
         }
     }
@@ -47,7 +53,7 @@ public final class BoundsTest {
             for (int number : many == 0 ? new int[] {} : new int[] {0, many - 1}) {
                 Check.passes(where + ": " + number, () -> call.accept(begin.apply(many), number));
             }
-            for (int number : new int[] {-1, many, Integer.MIN_VALUE, Integer.MAX_VALUE}) {
+            for (int number : beyond(0, many - 1)) {
                 Check.refuses(where + ": " + number, INDEX, () -> call.accept(begin.apply(many), number));
             }
         }

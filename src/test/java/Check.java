@@ -11,10 +11,10 @@ final class Check {
     static final Class<? extends RuntimeException> STATE = IllegalStateException.class;
 
     /** The promises of ../shared/DOC.md in their order, from 1. */
-    static final List<String> PROMISES = List.of("A new object", "fund", "scheme", "claim", "sample", "learn", "publish",
-            "plan", "know", "admit", "deal", "file", "amend", "extend", "choose", "help", "judge", "settle", "work",
-            "tell", "fire", "award", "pass", "covers", "bars", "first", "firstAnew", "due", "sees", "ofSuit", "ofClaim",
-            "got", "ofFirm", "all");
+    static final List<String> PROMISES = List.of("A new object", "fund", "scheme", "claim", "sample", "learn",
+            "publish", "plan", "know", "admit", "deal", "file", "amend", "extend", "choose", "help", "judge", "settle",
+            "work", "tell", "fire", "award", "pass", "covers", "bars", "first", "firstAnew", "due", "sees", "ofSuit",
+            "ofClaim", "got", "ofFirm", "all");
 
     private static String promise = "";
     private static int right = 0;

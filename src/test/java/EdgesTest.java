@@ -15,6 +15,7 @@ public final class EdgesTest {
         allThatThereIs();
         halfOfEachSize();
         halfByTheLastAmendment();
+        eachSuitAndAmendmentOnADay();
         publicByTheDay();
         joinedOnce();
         daysOfTheSeal();
@@ -127,6 +128,32 @@ public final class EdgesTest {
         Check.is("the lowest of that day", 0, bench.first(0));
         Check.promise("firstAnew");
         Check.is("the lowest of that day", 0, bench.firstAnew(0));
+    }
+
+    /** The most suits and amendments that there may be, each on a day of its own: the last one covers the scheme. */
+    private static void eachSuitAndAmendmentOnADay() {
+        RelatorsBench bench = Runs.withSchemes(1);
+        for (int suit = 0; suit < 12; suit++) {
+            bench.pass(1);
+            bench.file(0, 0, 0b10);
+        }
+        for (int i = 0; i < 39; i++) {
+            bench.pass(2);
+            bench.amend(i % 12, 0b110);
+        }
+        Check.promise("firstAnew");
+        Check.is("without a covering one", NONE, bench.firstAnew(0));
+        bench.pass(2);
+        Check.promise("amend");
+        Check.is("the last amendment", 3, bench.amend(11, 0b1));
+        Check.promise("covers");
+        Check.is("by the last amendment", 92, bench.covers(11, 0));
+        Check.promise("first");
+        Check.is("by the last amendment", 11, bench.first(0));
+        Check.promise("firstAnew");
+        Check.is("by the last amendment", 11, bench.firstAnew(0));
+        bench.choose(11, DISMISSED);
+        Check.is("dismissed", NONE, bench.firstAnew(0));
     }
 
     private static void publicByTheDay() {

@@ -2,15 +2,20 @@ import java.io.IOException;
 import java.nio.file.Files;
 import java.nio.file.Path;
 import java.util.List;
+import java.util.Map;
+import java.util.TreeMap;
 import java.util.regex.Matcher;
 import java.util.regex.Pattern;
 
-/** What of ../shared/LANGUAGE.md can be seen from the text of the program; .ci/run starts it in the project's folder. */
+/** What of ../shared/LANGUAGE.md is seen from the program's text; .ci/run starts it in the project's folder. */
 public final class LanguageTest {
     private static final Path PROGRAM = Path.of("src/main/java/RelatorsBench.java");
     private static final int MOST_LINES_OF_A_METHOD = 60;
     private static final int MOST_CLASSES = 12;
     private static final int MOST_PARAMETERS = 7;
+    private static final int DEEPEST = 8;
+    private static final Pattern METHOD = Pattern.compile(
+            "^( {4,8})(?:\\w+ )*(\\w+)\\(([^)]*)\\)[^;{]*\\{\n(.*?)\n\\1\\}", Pattern.MULTILINE | Pattern.DOTALL);
 
     private static final String[][] FORBIDDEN = {
         {"1", "\\bprotected\\b|^package\\b"},
@@ -40,6 +45,7 @@ public final class LanguageTest {
         imports(code);
         classes(code);
         methods(code);
+        depth(code);
         Check.close();
     }
 
@@ -70,8 +76,7 @@ public final class LanguageTest {
     }
 
     private static void methods(String code) {
-        Matcher matcher = Pattern.compile("^( {4,8})(?:\\w+ )*(\\w+)\\(([^)]*)\\)[^;{]*\\{\n(.*?)\n\\1\\}",
-                Pattern.MULTILINE | Pattern.DOTALL).matcher(code);
+        Matcher matcher = METHOD.matcher(code);
         int count = 0;
         while (matcher.find()) {
             count++;
@@ -85,5 +90,30 @@ public final class LanguageTest {
                     isConstructor && matcher.group(4).contains("throw "));
         }
         Check.is("methods were found", true, count > 50);
+    }
+
+    /** Methods of one name, also constructors, are taken together; what is none of the program's own ends a chain. */
+    private static void depth(String code) {
+        Map<String, String> bodies = new TreeMap<>();
+        Matcher matcher = METHOD.matcher(code);
+        while (matcher.find()) {
+            bodies.merge(matcher.group(2), matcher.group(4), String::concat);
+        }
+        for (String name : bodies.keySet()) {
+            int deep = deepFrom(name, bodies, 1);
+            Check.is("rule 11: " + name + " goes " + deep + " deep", true, deep <= DEEPEST);
+        }
+    }
+
+    private static int deepFrom(String name, Map<String, String> bodies, int deep) {
+        if (!bodies.containsKey(name) || deep > DEEPEST) {
+            return deep;
+        }
+        int deepest = deep;
+        Matcher call = Pattern.compile("\\b(?!if\\b|for\\b|switch\\b|return\\b)(\\w+)\\(").matcher(bodies.get(name));
+        while (call.find()) {
+            deepest = Math.max(deepest, deepFrom(call.group(1), bodies, deep + 1));
+        }
+        return deepest;
     }
 }

@@ -98,9 +98,10 @@ public final class RefusedTest {
                 b -> b.fund(0, 5000), b -> b.fund(1, 70), b -> b.scheme(0, 0b0011, 0), b -> b.scheme(0, 0b1100, 1),
                 b -> b.scheme(1, 0b1, 2), b -> b.claim(0, 100), b -> b.claim(1, 200), b -> b.claim(2, 300),
                 b -> wrong(b, 0, 2, 1), b -> wrong(b, 1, 1, 1), b -> wrong(b, 2, 3, 1), b -> b.learn(0, 0),
-                b -> b.learn(0, 2), b -> b.learn(1, 0), b -> asLong(b.plan(1, 0)), b -> b.publish(2),
-                b -> b.deal(0, 1, 30), b -> b.deal(0, 2, 70), b -> b.work(0, 0, 3), b -> b.work(1, 1, 9),
-                b -> b.pass(2), b -> asLong(b.know(2)), b -> b.claim(2, 400), b -> b.deal(1, 0, 50)));
+                b -> b.learn(0, 2), b -> b.learn(0, 5), b -> b.learn(1, 0), b -> asLong(b.plan(1, 0)),
+                b -> b.publish(2), b -> b.deal(0, 1, 30), b -> b.deal(0, 2, 70), b -> b.work(0, 0, 3),
+                b -> b.work(1, 1, 9), b -> b.pass(2), b -> asLong(b.know(2)), b -> b.claim(2, 400),
+                b -> b.deal(1, 0, 50)));
         steps.addAll(List.of(
                 b -> b.file(0, 0, 0b101), b -> b.file(1, 1, 0b1), b -> b.file(1, 0, 0b1), b -> b.file(0, 2, 0b1),
                 b -> asLong(b.admit(1)), b -> b.pass(1), b -> b.learn(0, 1), b -> b.amend(0, 0b10), b -> b.extend(0),
@@ -120,6 +121,7 @@ public final class RefusedTest {
             steps.add(b -> b.fund(0, 1000000));
         }
         steps.add(b -> b.learn(0, 0));
+        steps.add(b -> b.learn(0, 1));
         for (int i = 0; i < 8; i++) {
             int firm = i % 3;
             steps.add(b -> b.scheme(firm, 1, firm));
@@ -242,8 +244,11 @@ public final class RefusedTest {
         return List.of(
                 new Tried("learn", "no teller", INDEX, b -> b.learn(8, 0)),
                 new Tried("learn", "no fact", INDEX, b -> b.learn(0, 16)),
+                new Tried("learn", "a fact that wraps around to 0", INDEX, b -> b.learn(2, 32)),
                 new Tried("publish", "no fact", INDEX, b -> b.publish(16)),
+                new Tried("publish", "a fact that wraps around to 0", INDEX, b -> b.publish(-32)),
                 new Tried("plan", "no teller", INDEX, b -> asLong(b.plan(8, 0))),
+                new Tried("plan", "a teller who wraps around to 1", INDEX, b -> asLong(b.plan(33, 0))),
                 new Tried("plan", "no scheme", INDEX, b -> asLong(b.plan(0, 8))),
                 new Tried("know", "no scheme", INDEX, b -> asLong(b.know(8))),
                 new Tried("admit", "no scheme", INDEX, b -> asLong(b.admit(8))),
@@ -266,8 +271,9 @@ public final class RefusedTest {
                 new Tried("amend", "no suit", INDEX, b -> b.amend(12, 1)),
                 new Tried("amend", "no facts", ARGUMENT, b -> b.amend(0, 0)),
                 new Tried("amend", "not known", STATE, b -> b.amend(0, 0b1000001)),
-                new Tried("amend", "dismissed", STATE, b -> b.amend(3, 1)),
-                new Tried("amend", "a forty-first time", STATE, b -> b.amend(2, 1)));
+                new Tried("amend", "dismissed", STATE, b -> b.amend(3, 0b100)),
+                new Tried("amend", "won", STATE, b -> b.amend(0, 0b100000)),
+                new Tried("amend", "a forty-first time", STATE, b -> b.amend(2, 0b10)));
     }
 
     private static List<Tried> ofSuits() {

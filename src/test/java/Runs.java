@@ -3,7 +3,7 @@ final class Runs {
     private Runs() {
     }
 
-    /** Firm 0 with the scheme 0 of the fact 0 alone; the teller 0, who knows it, filed the suit 0 by it on the day 0. */
+    /** The scheme 0 of the firm 0 and the fact 0 alone; the teller 0, who knows it, filed the suit 0 by it today. */
     static RelatorsBench suedScheme(int ground) {
         RelatorsBench bench = new RelatorsBench();
         bench.scheme(0, 1, ground);
