@@ -22,6 +22,7 @@ public final class RandomRunsTest {
     private final int facts;
     private final int longestPass;
     private final int publishing;
+    private final int richest;
     private String call = "";
     private int schemes = 0;
     private int suits = 0;
@@ -34,6 +35,7 @@ public final class RandomRunsTest {
         this.facts = 2 + random.nextInt(random.nextBoolean() ? 5 : 15);
         this.longestPass = random.nextBoolean() ? 20 : 300;
         this.publishing = random.nextBoolean() ? 1 : 10;
+        this.richest = random.nextInt(3) == 0 ? 100 : 1000000;
     }
 
     public static void main(String[] args) {
@@ -51,7 +53,7 @@ public final class RandomRunsTest {
         for (int bar = 0; bar <= 3; bar++) {
             Check.is("enough of bars " + bar, true, seen.getOrDefault("bars=" + bar, 0) > 50);
         }
-        for (String word : new String[] {"judge>0", "settle>0", "award>0", "admit!", "fire=1", "due>0"}) {
+        for (String word : new String[] {"judge>0", "settle>0", "settle!", "award>0", "admit!", "fire=1", "due>0"}) {
             Check.is("enough of " + word, true, seen.getOrDefault(word, 0) > 30);
         }
         Check.close();
@@ -127,6 +129,17 @@ public final class RandomRunsTest {
         return random.nextInt(ODD) == 0 ? upTo(12) : random.nextInt(Math.max(1, suits));
     }
 
+    /** Often what is just enough or one too little, as the second bench tells, or what the firm has or one more. */
+    private int settlement(int suit) {
+        boolean isSuit = suit >= 0 && suit < suits;
+        switch (random.nextInt(isSuit ? 6 : 2)) {
+            case 0: return from(0, 100000000);
+            case 1: return from(0, 3000);
+            case 2: case 3: return (told.due(suit) + 4) / 5 - random.nextInt(2);
+            default: return told.ofFirm(told.ofSuit(suit, 1), 0) + random.nextInt(2);
+        }
+    }
+
     private void step(String where) {
         IntSupplier[] both = random.nextInt(3) == 0 ? ask() : random.nextBoolean() ? tellFacts() : tellSuits();
         String want = answer(both[1]);
@@ -176,7 +189,7 @@ public final class RandomRunsTest {
         int fact = random.nextInt(ODD) == 0 ? upTo(16) : random.nextInt(facts);
         switch (random.nextInt(15)) {
             case 0: case 1: {
-                int money = random.nextInt(3) == 0 ? from(1, 1000000) : from(1, 3000);
+                int money = random.nextInt(3) == 0 ? from(1, richest) : from(1, Math.min(richest, 3000));
                 return two("fund", () -> bench.fund(firm, money), () -> told.fund(firm, money), firm, money);
             }
             case 2: {
@@ -252,7 +265,7 @@ public final class RandomRunsTest {
                 return two("help", () -> bench.help(suit, help), () -> told.help(suit, help), suit, help);
             }
             case 8: {
-                int sum = random.nextInt(3) == 0 ? from(0, 100000000) : from(0, 3000);
+                int sum = settlement(suit);
                 return two("settle", () -> bench.settle(suit, sum), () -> told.settle(suit, sum), suit, sum);
             }
             case 9: {
